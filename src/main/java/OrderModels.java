@@ -35,7 +35,8 @@ public final class OrderModels {
     private static final int WHATS = 11;
     private static final int MOST_NUMBER = 9;
     private static final int MOST_SKIPPED = 3;
-    private static final int MOST_STEPS = 14;
+    /** With buffers an action is a step, and what it wrote goes from its buffer in another. */
+    private static final int MOST_STEPS = 2 * ACTIONS;
     private static final int STEP_THREAD = 100;
 
     /** A value is a sum of at most seven numbers, so -63 .. 63: seven bits hold it with this added. */
@@ -65,7 +66,8 @@ public final class OrderModels {
         byRuns = new OutcomeSet[MODELS];
         byGraphs = new OutcomeSet[MODELS];
         for (int model = 0; model < MODELS; model++) {
-            byRuns[model] = new OutcomeSet(MOST_STEPS);
+            boolean buffers = model == ONE_BUFFER || model == MANY_BUFFERS;
+            byRuns[model] = new OutcomeSet(buffers ? MOST_STEPS : ACTIONS);
             byGraphs[model] = new OutcomeSet(0);
         }
     }
@@ -143,11 +145,15 @@ public final class OrderModels {
             return NONE;
         }
         foundByRuns(IN_TURN);
-        return bufferWalk.racing[a] >> b & 1;
+        return isIn(bufferWalk.racing[a], b) ? 1 : 0;
     }
 
     private static boolean isModel(int model) {
         return model >= 0 && model < MODELS;
+    }
+
+    private static boolean isIn(int set, int a) {
+        return (set >> a & 1) != 0;
     }
 
     private static boolean isAction(int kind, int x, int register, int v) {
@@ -276,8 +282,16 @@ public final class OrderModels {
             return row == FENCE_ROW ? ofKind[FENCE] : onVariable[row] & ~ofKind[READ];
         }
 
+        int rowOf(int a) {
+            return kindOf[a] < FENCE ? variableOf[a] : FENCE_ROW;
+        }
+
         int ownBefore(int a) {
-            return ofThread[threadOf[a]] & (1 << a) - 1;
+            return ofThread[threadOf[a]] & ((1 << a) - 1);
+        }
+
+        int ownAfter(int a) {
+            return ofThread[threadOf[a]] & ~((2 << a) - 1);
         }
 
         /** The actions that a is a race with, if both are ever next at a time. */
@@ -348,18 +362,18 @@ public final class OrderModels {
             }
             places[program.threadOf[a]] += passed;
             done |= 1 << a;
-            sources |= (long) source << SOURCE_BITS * a;
+            sources |= (long) source << (SOURCE_BITS * a);
         }
 
         void undo(int a, int oldRegister) {
             registers[program.cellOf[a]] = oldRegister;
             places[program.threadOf[a]] = program.placeOf[a];
             done &= ~(1 << a);
-            sources &= ~((long) SOURCE_MASK << SOURCE_BITS * a);
+            sources &= ~((long) SOURCE_MASK << (SOURCE_BITS * a));
         }
 
         boolean isWritten(int source) {
-            return source == 0 || (done >> source - 1 & 1) != 0;
+            return source == 0 || isIn(done, source - 1);
         }
 
         /**
@@ -367,21 +381,21 @@ public final class OrderModels {
          * too: these need not be in a state's key.
          */
         long key() {
-            return sources << ACTIONS | done;
+            return (sources << ACTIONS) | done;
         }
 
         long registersKey() {
             long key = 0;
             for (int r = 0; r < REGISTERS; r++) {
-                key = key << VALUE_BITS | registers[r] + BIAS;
+                key = (key << VALUE_BITS) | (registers[r] + BIAS);
             }
             return key;
         }
 
         int variablesKey(int source0, int source1, int source2) {
             int key = values[source0] + BIAS;
-            key = key << VALUE_BITS | values[source1] + BIAS;
-            return key << VALUE_BITS | values[source2] + BIAS;
+            key = (key << VALUE_BITS) | (values[source1] + BIAS);
+            return (key << VALUE_BITS) | (values[source2] + BIAS);
         }
     }
 
@@ -436,13 +450,13 @@ public final class OrderModels {
 
         /** The slot that holds the key, or the empty one where it belongs: half of them are always empty. */
         private int slotOf(long key) {
-            int slot = (int) (key * SPREADER >>> SPREAD_SHIFT) & room - 1;
+            int slot = (int) ((key * SPREADER) >>> SPREAD_SHIFT) & (room - 1);
             for (int n = 0; n < room; n++) {
                 int held = slots[slot];
                 if (held == 0 || keys[held - 1] == key) {
                     return slot;
                 }
-                slot = slot + 1 & room - 1;
+                slot = (slot + 1) & (room - 1);
             }
             return slot;
         }
@@ -451,6 +465,7 @@ public final class OrderModels {
     /** Outcomes in rising order, each with the first run that was told for it. */
     private static final class OutcomeSet {
         private static final int LEAST_ROOM = 8;
+        private static final int MOST_HALVINGS = 32;
 
         private final int stepsEach;
         private long[] registers = new long[0];
@@ -471,26 +486,38 @@ public final class OrderModels {
             standing = 0;
         }
 
-        void add(long registersKey, int variablesKey, int[] path, int length) {
+        void addGraph(long registersKey, int variablesKey) {
+            standing++;
+            add(registersKey, variablesKey);
+        }
+
+        void addRun(long registersKey, int variablesKey, int[] path, int length) {
+            if (!add(registersKey, variablesKey)) {
+                return;
+            }
+            int row = size - 1;
+            lengths[row] = Math.min(Math.min(length, path.length), stepsEach);
+            for (int k = 0; k < lengths[row]; k++) {
+                steps[row * stepsEach + k] = path[k];
+            }
+        }
+
+        /** Whether the outcome was not there. */
+        private boolean add(long registersKey, int variablesKey) {
             int place = firstNotLess(registersKey, variablesKey);
             if (isAt(place, registersKey, variablesKey)) {
-                return;
+                return false;
             }
             if (size >= order.length) {
                 grow();
             }
             registers[size] = registersKey;
             variables[size] = variablesKey;
-            int kept = Math.min(length, stepsEach);
-            lengths[size] = kept;
-            for (int k = 0; k < kept; k++) {
-                steps[size * stepsEach + k] = path[k];
-            }
-            for (int at = size; at > place; at--) {
-                order[at] = order[at - 1];
-            }
+            lengths[size] = 0;
+            System.arraycopy(order, place, order, place + 1, size - place);
             order[place] = size;
             size++;
+            return true;
         }
 
         private void grow() {
@@ -505,8 +532,8 @@ public final class OrderModels {
         private int firstNotLess(long registersKey, int variablesKey) {
             int low = 0;
             int high = size;
-            while (low < high) {
-                int middle = low + high >> 1;
+            for (int n = 0; n < MOST_HALVINGS && low < high; n++) {
+                int middle = (low + high) >> 1;
                 int row = order[middle];
                 boolean less = registers[row] < registersKey
                         || registers[row] == registersKey && variables[row] < variablesKey;
@@ -545,7 +572,7 @@ public final class OrderModels {
             int row = order[i];
             long key = what < REGISTERS ? registers[row] : variables[row];
             int behind = (what < REGISTERS ? REGISTERS : WHATS) - 1 - what;
-            return (int) (key >> VALUE_BITS * behind & VALUE_MASK) - BIAS;
+            return (int) ((key >> (VALUE_BITS * behind)) & VALUE_MASK) - BIAS;
         }
 
         int stepOf(int i, int k) {
@@ -598,8 +625,8 @@ public final class OrderModels {
         }
 
         private void spread(int depth) {
-            long key = progress.key() << MEMORY_BITS | memory;
-            if (!seen.add(key << ACTIONS | held)) {
+            long key = (progress.key() << MEMORY_BITS) | memory;
+            if (!seen.add((key << ACTIONS) | held)) {
                 return;
             }
             if (model == IN_TURN) {
@@ -616,7 +643,7 @@ public final class OrderModels {
             }
             if (ended) {
                 int variables = progress.variablesKey(sourceIn(0), sourceIn(1), sourceIn(2));
-                found.add(progress.registersKey(), variables, path, depth);
+                found.addRun(progress.registersKey(), variables, path, depth);
             }
         }
 
@@ -647,7 +674,7 @@ public final class OrderModels {
             int x = program.variableOf[a];
             int own = held & program.ofThread[program.threadOf[a]] & program.onVariable[x];
             for (int b = ACTIONS - 1; b >= 0 && own != 0; b--) {
-                if ((own >> b & 1) != 0) {
+                if (isIn(own, b)) {
                     return b + 1;
                 }
             }
@@ -664,12 +691,12 @@ public final class OrderModels {
         }
 
         private int sourceIn(int x) {
-            return memory >> SOURCE_BITS * x & SOURCE_MASK;
+            return (memory >> (SOURCE_BITS * x)) & SOURCE_MASK;
         }
 
         private void putIntoMemory(int a) {
             int shift = SOURCE_BITS * program.variableOf[a];
-            memory = memory & ~(SOURCE_MASK << shift) | a + 1 << shift;
+            memory = (memory & ~(SOURCE_MASK << shift)) | ((a + 1) << shift);
         }
 
         private boolean goFromBuffers(int thread, int depth) {
@@ -709,7 +736,7 @@ public final class OrderModels {
                 nexts |= a == NONE ? 0 : 1 << a;
             }
             for (int a = 0; a < program.actions; a++) {
-                if ((nexts >> a & 1) != 0) {
+                if (isIn(nexts, a)) {
                     racing[a] |= nexts & program.rivalsOf(a);
                 }
             }
@@ -750,7 +777,7 @@ public final class OrderModels {
         }
 
         private void spread(int depth) {
-            if (!seen.add(progress.key() << ALL_SOURCES_BITS | rowsKey())) {
+            if (!seen.add((progress.key() << ALL_SOURCES_BITS) | rowsKey())) {
                 return;
             }
             boolean ended = true;
@@ -763,7 +790,7 @@ public final class OrderModels {
             }
             if (ended) {
                 int variables = progress.variablesKey(lastIn(0), lastIn(1), lastIn(2));
-                found.add(progress.registersKey(), variables, path, depth);
+                found.addRun(progress.registersKey(), variables, path, depth);
             }
         }
 
@@ -771,7 +798,7 @@ public final class OrderModels {
         private long rowsKey() {
             long key = 0;
             for (int row = 0; row < ROWS; row++) {
-                key = key << SOURCE_BITS * sizes[row] | rows[row];
+                key = (key << (SOURCE_BITS * sizes[row])) | rows[row];
             }
             return key;
         }
@@ -828,7 +855,7 @@ public final class OrderModels {
                 return;
             }
             int thread = program.threadOf[a];
-            int row = program.kindOf[a] == FENCE ? FENCE_ROW : Math.min(program.variableOf[a], VARIABLES);
+            int row = program.rowOf(a);
             int oldRegister = progress.registerOf(a);
             int oldLearned = learned[thread];
             int oldRow = rows[row];
@@ -850,14 +877,17 @@ public final class OrderModels {
 
         private void insert(int row, int place, int source) {
             int shift = SOURCE_BITS * (place - 1);
-            int ahead = rows[row] & (1 << shift) - 1;
+            int ahead = rows[row] & ((1 << shift) - 1);
             int behind = rows[row] >> shift;
-            rows[row] = ahead | source << shift | behind << shift + SOURCE_BITS;
+            rows[row] = ahead | (source << shift) | (behind << (shift + SOURCE_BITS));
             sizes[row]++;
         }
 
         private int sourceAt(int row, int place) {
-            return place < 1 || place > sizes[row] ? 0 : rows[row] >> SOURCE_BITS * (place - 1) & SOURCE_MASK;
+            if (place < 1 || place > sizes[row]) {
+                return 0;
+            }
+            return (rows[row] >> (SOURCE_BITS * (place - 1))) & SOURCE_MASK;
         }
 
         private int lastIn(int row) {
@@ -873,7 +903,7 @@ public final class OrderModels {
             int row = program.variableOf[a];
             int known = learned[program.threadOf[a]];
             for (int place = sizes[row]; place > 0; place--) {
-                if ((known >> sourceAt(row, place) - 1 & 1) != 0) {
+                if (isIn(known, sourceAt(row, place) - 1)) {
                     return place;
                 }
             }
@@ -893,6 +923,8 @@ public final class OrderModels {
         private final Progress progress;
         private final int[] from = new int[ACTIONS];
         private final int[] waits = new int[THREADS];
+        /** Of each variable the sources that ADDS are FROM: two can't both stand right behind one. */
+        private final int[] taken = new int[VARIABLES];
         private final int[] own = new int[ACTIONS];
         private final int[] ownOnOne = new int[ACTIONS];
         private final int[] ownKept = new int[ACTIONS];
@@ -902,6 +934,7 @@ public final class OrderModels {
         /** What is before an action by FROM, ROW or SEEN, in one go. */
         private final int[] before = new int[ACTIONS];
         private final int[] outerBefore = new int[ACTIONS];
+        /** What an action HAPPENS before. */
         private final int[] happens = new int[ACTIONS];
         private OutcomeSet found;
         private int model;
@@ -919,6 +952,7 @@ public final class OrderModels {
             progress.begin();
             Arrays.fill(from, NONE);
             Arrays.fill(waits, NONE);
+            Arrays.fill(taken, 0);
             for (int a = 0; a < program.actions; a++) {
                 tellOwn(a);
             }
@@ -948,7 +982,8 @@ public final class OrderModels {
             int thread = freeThread();
             if (thread == NONE) {
                 if (allEnded()) {
-                    startRows();
+                    noteReaders();
+                    startRow(model == KNOWING ? FENCE_ROW : VARIABLES - 1, 0);
                 }
                 return;
             }
@@ -995,12 +1030,15 @@ public final class OrderModels {
         }
 
         private void chooseSource(int a, int depth) {
+            int x = program.variableOf[a];
             int thread = program.threadOf[a];
+            int oldTaken = taken[x];
             for (int source = 0; source <= program.actions; source++) {
-                if (!mayBeFrom(a, source)) {
+                if (!mayBeFrom(a, source) || !canHappen(source, thread)) {
                     continue;
                 }
                 from[a] = source;
+                taken[x] |= program.kindOf[a] == ADD ? 1 << source : 0;
                 if (progress.isWritten(source)) {
                     take(a, source, depth);
                 } else {
@@ -1008,39 +1046,58 @@ public final class OrderModels {
                     choose(depth + 1);
                     waits[thread] = NONE;
                 }
+                taken[x] = oldTaken;
                 from[a] = NONE;
             }
         }
 
         private boolean mayBeFrom(int a, int source) {
             int x = program.variableOf[a];
-            if (program.kindOf[a] == ADD && isTakenByAdd(x, source)) {
+            if (source > 0 && (source - 1 == a || !isIn(program.writersOf(x), source - 1))) {
                 return false;
             }
-            if (source == 0) {
-                return true;
-            }
-            int writer = source - 1;
-            if (writer == a || (program.writersOf(x) >> writer & 1) == 0) {
+            if (program.kindOf[a] == ADD && isIn(taken[x], source)) {
                 return false;
             }
-            return progress.isWritten(source) || canYetHappen(writer, program.threadOf[a]);
+            return !isPast(a, source);
+        }
+
+        /** Whether an own action ahead on the variable wrote, or had its value from, what must be behind this one. */
+        private boolean isPast(int a, int source) {
+            int ahead = ownOnOne[a] & progress.done;
+            for (int b = 0; b < a; b++) {
+                if (isIn(ahead, b)) {
+                    int shown = program.kindOf[b] == READ ? from[b] : b + 1;
+                    if (shown > 0 && (source == 0 || isBehind(shown - 1, source))) {
+                        return true;
+                    }
+                }
+            }
+            return false;
+        }
+
+        private boolean isBehind(int writer, int source) {
+            return from[writer] == source || isIn(program.ownAfter(source - 1), writer);
         }
 
         /** Two ADDS can't both stand right behind one. */
         private boolean isTakenByAdd(int x, int source) {
             int adds = program.onVariable[x] & program.ofKind[ADD];
             for (int b = 0; b < program.actions; b++) {
-                if ((adds >> b & 1) != 0 && from[b] == source) {
+                if (isIn(adds, b) && from[b] == source) {
                     return true;
                 }
             }
             return false;
         }
 
-        private boolean canYetHappen(int writer, int waiting) {
-            int thread = program.threadOf[writer];
-            if (program.placeOf[writer] < progress.places[thread]) {
+        /** Whether it is written, or may be: neither passed over nor behind one that waits for this thread. */
+        private boolean canHappen(int source, int waiting) {
+            if (progress.isWritten(source)) {
+                return true;
+            }
+            int thread = program.threadOf[source - 1];
+            if (program.placeOf[source - 1] < progress.places[thread]) {
                 return false;
             }
             for (int n = 0; n < THREADS; n++) {
@@ -1055,24 +1112,23 @@ public final class OrderModels {
             return false;
         }
 
-        private void startRows() {
+        private void noteReaders() {
             members = progress.done & ~program.ofKind[SKIP];
             Arrays.fill(readers, 0);
             Arrays.fill(firstReaders, 0);
             Arrays.fill(before, 0);
             for (int a = 0; a < program.actions; a++) {
-                if ((members >> a & 1) != 0 && program.takesValue(a)) {
+                if (isIn(members, a) && program.takesValue(a)) {
                     noteReader(a);
                 }
             }
-            startRow(model == KNOWING ? FENCE_ROW : VARIABLES - 1, 0);
         }
 
         private void noteReader(int a) {
             int source = from[a];
             if (source > 0) {
                 readers[source] |= 1 << a;
-                before[a] = 1 << source - 1;
+                before[a] = 1 << (source - 1);
             } else {
                 firstReaders[program.variableOf[a]] |= 1 << a;
             }
@@ -1086,9 +1142,8 @@ public final class OrderModels {
             if (row >= 0) {
                 lay(row, 0, program.writersOf(row) & members, 0, firstReaders[row], depth);
             } else if (stands()) {
-                found.standing++;
                 int variables = progress.variablesKey(lasts[0], lasts[1], lasts[2]);
-                found.add(progress.registersKey(), variables, own, 0);
+                found.addGraph(progress.registersKey(), variables);
             }
         }
 
@@ -1106,10 +1161,10 @@ public final class OrderModels {
             int bound = adds & (last == 0 ? firstReaders[row] : readers[last]);
             int choices = bound != 0 ? bound : todo & ~adds;
             for (int w = 0; w < program.actions; w++) {
-                // in no model may a row be against the own order of its writers: that alone is a ring
-                if ((choices >> w & 1) != 0 && (own[w] & todo) == 0) {
+                // what is against the own order on one variable is a ring in every model: no need to go on
+                if (isIn(choices, w) && (own[w] & todo) == 0 && (seen & program.ownAfter(w)) == 0) {
                     int bit = 1 << w;
-                    before[w] = ahead | seen & ~bit;
+                    before[w] = ahead | (seen & ~bit);
                     lay(row, w + 1, todo & ~bit, ahead | bit, seen | readers[w + 1], depth + 1);
                 }
             }
@@ -1120,18 +1175,20 @@ public final class OrderModels {
                 case IN_TURN:
                     return hasNoRing(own, before, members);
                 case KNOWING:
-                    return knowsNothingAgainst();
+                    return isKnownInOrder();
                 default:
-                    return hasNoRing(ownOnOne, before, members & ~program.ofKind[FENCE]) && hasNoOuterRing();
+                    tellOuter();
+                    return hasNoRing(ownOnOne, before, members & ~program.ofKind[FENCE])
+                            && hasNoRing(ownKept, outerBefore, members);
             }
         }
 
-        private boolean hasNoOuterRing() {
+        /** An ADD stands behind what it is FROM in the row, so only to READS can one of the same thread be left out. */
+        private void tellOuter() {
             for (int a = 0; a < program.actions; a++) {
                 boolean read = program.kindOf[a] == READ;
                 outerBefore[a] = read ? before[a] & ~program.ofThread[program.threadOf[a]] : before[a];
             }
-            return hasNoRing(ownKept, outerBefore, members);
         }
 
         /** Takes away what nothing is before, as long as there is such: what is left at last is on or behind a ring. */
@@ -1149,42 +1206,33 @@ public final class OrderModels {
 
         private void closeHappens() {
             for (int a = 0; a < program.actions; a++) {
-                int source = from[a];
-                happens[a] = own[a] & members | (source > 0 ? 1 << source - 1 : 0);
+                happens[a] = (program.ownAfter(a) & members) | readers[a + 1];
                 if (program.kindOf[a] == FENCE) {
-                    happens[a] |= before[a];
+                    int ahead = before[a] | (1 << a);
+                    happens[a] |= members & program.ofKind[FENCE] & ~ahead;
                 }
             }
             for (int middle = 0; middle < program.actions; middle++) {
                 for (int a = 0; a < program.actions; a++) {
-                    if ((happens[a] >> middle & 1) != 0) {
+                    if (isIn(happens[a], middle)) {
                         happens[a] |= happens[middle];
                     }
                 }
             }
         }
 
-        private boolean knowsNothingAgainst() {
+        /** Of a writer, before is all that goes to it by one or more; to a READ goes what goes to its writer too. */
+        private boolean isKnownInOrder() {
             for (int a = 0; a < program.actions; a++) {
-                if ((members >> a & 1) != 0 && isAgainst(a)) {
+                int going = before[a];
+                if (program.kindOf[a] == READ && from[a] > 0) {
+                    going |= before[from[a] - 1];
+                }
+                if (isIn(members, a) && (going & happens[a]) != 0) {
                     return false;
                 }
             }
             return true;
-        }
-
-        /** Of a writer, before holds all that goes to it by one or more; of a READ what goes to its own writer too. */
-        private boolean isAgainst(int a) {
-            int reaching = before[a];
-            if (program.kindOf[a] == READ && from[a] > 0) {
-                reaching |= before[from[a] - 1];
-            }
-            for (int b = 0; b < program.actions; b++) {
-                if ((reaching >> b & 1) != 0 && (happens[b] >> a & 1) != 0) {
-                    return true;
-                }
-            }
-            return false;
         }
     }
 }
