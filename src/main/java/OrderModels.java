@@ -1221,14 +1221,13 @@ public final class OrderModels {
             }
         }
 
-        /** Of a writer, before is all that goes to it by one or more; to a READ goes what goes to its writer too. */
+        /**
+         * Of a writer, before is all that goes to it by one or more. What else goes to a READ goes to what it is FROM,
+         * which HAPPENS before whatever the READ does: it is met there.
+         */
         private boolean isKnownInOrder() {
             for (int a = 0; a < program.actions; a++) {
-                int going = before[a];
-                if (program.kindOf[a] == READ && from[a] > 0) {
-                    going |= before[from[a] - 1];
-                }
-                if (isIn(members, a) && (going & happens[a]) != 0) {
+                if (isIn(members, a) && (before[a] & happens[a]) != 0) {
                     return false;
                 }
             }

@@ -15,10 +15,21 @@ public final class AgainstReference {
         }
     }
 
+    /** Without arguments what .ci/run takes; else how many programs, of how many actions, and a seed. */
     public static void main(String[] args) {
-        int programs = args.length > 0 ? Integer.parseInt(args[0]) : 1500;
-        int most = args.length > 1 ? Integer.parseInt(args[1]) : 5;
-        long seed = args.length > 2 ? Long.parseLong(args[2]) : 20261115L;
+        if (args.length == 3) {
+            compareMany(Integer.parseInt(args[0]), Integer.parseInt(args[1]), Long.parseLong(args[2]));
+        } else {
+            compareMany(1500, 5, 20261115L);
+            compareMany(40, 6, 5L);
+        }
+        System.out.println(wrong == 0 ? "all answers are as due" : wrong + " answers are not as due");
+        if (wrong != 0) {
+            System.exit(1);
+        }
+    }
+
+    private static void compareMany(int programs, int most, long seed) {
         Random random = new Random(seed);
         OrderModels models = new OrderModels();
         for (int n = 0; n < programs; n++) {
@@ -26,10 +37,6 @@ public final class AgainstReference {
             models.clear();
             tell(models, threads);
             compare(models, threads);
-        }
-        System.out.println(wrong == 0 ? "all answers are as due" : wrong + " answers are not as due");
-        if (wrong != 0) {
-            System.exit(1);
         }
     }
 

@@ -89,6 +89,11 @@ public final class Promises {
         return of(2, write(0, 0, 1), fence(0), read(0, 1, 0), write(1, 1, 1), fence(1), read(1, 0, 0));
     }
 
+    // what a thread reads from its own buffer puts nothing in order
+    private static OrderModels ownReadsFirst() {
+        return of(2, write(0, 0, 1), read(0, 0, 0), read(0, 1, 1), write(1, 1, 1), read(1, 1, 0), read(1, 0, 1));
+    }
+
     private static OrderModels messagePassing() {
         return of(2, write(0, 0, 1), write(0, 1, 1), read(1, 1, 0), read(1, 0, 1));
     }
@@ -224,6 +229,7 @@ public final class Promises {
     private static void runsOfLitmusTests() {
         dueRuns("store buffering", storeBuffering(), 3, 4, 4, 4);
         dueRuns("store buffering, fenced", storeBufferingFenced(), 3, 3, 3, 3);
+        dueRuns("store buffering, own reads first", ownReadsFirst(), 3, 4, 4, 4);
         dueRuns("message passing", messagePassing(), 3, 3, 4, 3);
         dueRuns("load buffering", loadBuffering(), 3, 3, 3, 3);
         dueRuns("two writes twice", twoWritesTwice(), 3, 3, 4, 4);
