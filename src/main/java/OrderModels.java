@@ -1080,17 +1080,6 @@ public final class OrderModels {
             return from[writer] == source || isIn(program.ownAfter(source - 1), writer);
         }
 
-        /** Two ADDS can't both stand right behind one. */
-        private boolean isTakenByAdd(int x, int source) {
-            int adds = program.onVariable[x] & program.ofKind[ADD];
-            for (int b = 0; b < program.actions; b++) {
-                if (isIn(adds, b) && from[b] == source) {
-                    return true;
-                }
-            }
-            return false;
-        }
-
         /** Whether it is written, or may be: neither passed over nor behind one that waits for this thread. */
         private boolean canHappen(int source, int waiting) {
             if (progress.isWritten(source)) {

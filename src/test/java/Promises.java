@@ -1,18 +1,5 @@
-import java.util.Arrays;
-
 /** Each promise by hand: ordinary programs, the edges that the document names, wrong inputs. */
-public final class Promises {
-    private static final int READ = 0, WRITE = 1, SEND = 2, ADD = 3, FENCE = 4, SKIP = 5;
-    private static final int[] WRONG_MODELS = {-1, 4, Integer.MIN_VALUE, Integer.MAX_VALUE};
-    private static int wrong = 0;
-
-    private static void due(int promise, String call, int got, int want) {
-        if (got != want) {
-            wrong++;
-            System.out.println("promise " + promise + ": " + call + " answered " + got + ", due is " + want);
-        }
-    }
-
+public final class Promises extends Checks {
     public static void main(String[] args) {
         newObject();
         threads();
@@ -32,86 +19,7 @@ public final class Promises {
         races();
         raceArguments();
         askedAgainAfterChange();
-        System.out.println(wrong == 0 ? "all answers are as due" : wrong + " answers are not as due");
-        if (wrong != 0) {
-            System.exit(1);
-        }
-    }
-
-    /** Rows of thread, kind, x, register, v. */
-    private static OrderModels of(int threads, int[]... actions) {
-        OrderModels m = new OrderModels();
-        tell(m, threads, actions);
-        return m;
-    }
-
-    private static void tell(OrderModels m, int threads, int[]... actions) {
-        int[] lengths = new int[4];
-        for (int t = 0; t < threads; t++) {
-            due(2, "thread()", m.thread(), t);
-        }
-        for (int[] a : actions) {
-            lengths[a[0]]++;
-            due(3, "action" + Arrays.toString(a), m.action(a[0], a[1], a[2], a[3], a[4]), lengths[a[0]]);
-        }
-    }
-
-    private static int[] read(int t, int x, int r) {
-        return new int[] {t, READ, x, r, 0};
-    }
-
-    private static int[] write(int t, int x, int v) {
-        return new int[] {t, WRITE, x, 0, v};
-    }
-
-    private static int[] send(int t, int x, int r, int v) {
-        return new int[] {t, SEND, x, r, v};
-    }
-
-    private static int[] add(int t, int x, int r, int v) {
-        return new int[] {t, ADD, x, r, v};
-    }
-
-    private static int[] fence(int t) {
-        return new int[] {t, FENCE, 0, 0, 0};
-    }
-
-    private static int[] skip(int t, int n, int r, int v) {
-        return new int[] {t, SKIP, n, r, v};
-    }
-
-    // two threads, each writes one variable and reads the other one
-    private static OrderModels storeBuffering() {
-        return of(2, write(0, 0, 1), read(0, 1, 0), write(1, 1, 1), read(1, 0, 0));
-    }
-
-    private static OrderModels storeBufferingFenced() {
-        return of(2, write(0, 0, 1), fence(0), read(0, 1, 0), write(1, 1, 1), fence(1), read(1, 0, 0));
-    }
-
-    // what a thread reads from its own buffer puts nothing in order
-    private static OrderModels ownReadsFirst() {
-        return of(2, write(0, 0, 1), read(0, 0, 0), read(0, 1, 1), write(1, 1, 1), read(1, 1, 0), read(1, 0, 1));
-    }
-
-    private static OrderModels messagePassing() {
-        return of(2, write(0, 0, 1), write(0, 1, 1), read(1, 1, 0), read(1, 0, 1));
-    }
-
-    private static OrderModels loadBuffering() {
-        return of(2, read(0, 0, 0), write(0, 1, 1), read(1, 1, 0), write(1, 0, 1));
-    }
-
-    private static OrderModels twoWritesTwice() {
-        return of(2, write(0, 0, 1), write(0, 1, 2), write(1, 1, 1), write(1, 0, 2));
-    }
-
-    private static OrderModels independentReads() {
-        return of(4, write(0, 0, 1), write(1, 1, 1), read(2, 0, 0), read(2, 1, 1), read(3, 1, 0), read(3, 0, 1));
-    }
-
-    private static OrderModels twoAdds() {
-        return of(2, add(0, 0, 0, 1), add(1, 0, 0, 1));
+        end();
     }
 
     private static void newObject() {
@@ -217,13 +125,6 @@ public final class Promises {
         due(4, "action after", m.action(0, FENCE, 0, 0, 0), -1);
         tell(m, 1, fence(0), fence(0), fence(0), fence(0), fence(0), fence(0), write(0, 2, -9));
         due(4, "a new program", m.outcome(0, 0, 10), -9);
-    }
-
-    private static void dueRuns(String name, OrderModels m, int... counts) {
-        for (int model = 0; model < 4; model++) {
-            due(5, name + ": runs(" + model + ")", m.runs(model), counts[model]);
-            due(8, name + ": orders(" + model + ")", m.orders(model), counts[model]);
-        }
     }
 
     private static void runsOfLitmusTests() {
@@ -334,13 +235,6 @@ public final class Promises {
         }
     }
 
-    private static void dueWitness(OrderModels m, int model, int i, int... steps) {
-        for (int k = 0; k < steps.length; k++) {
-            due(7, "witness(" + model + ", " + i + ", " + k + ")", m.witness(model, i, k), steps[k]);
-        }
-        due(7, "witness(" + model + ", " + i + ") ended", m.witness(model, i, steps.length), -1);
-    }
-
     private static void witnesses() {
         OrderModels m = storeBuffering();
         dueWitness(m, 0, 0, 0, 0, 100, 100);
@@ -375,12 +269,6 @@ public final class Promises {
         OrderModels w = of(2, write(0, 0, 1), write(1, 0, 2));
         dueWitness(w, 3, 0, 1, 101);
         dueWitness(w, 3, 1, 1, 102);
-    }
-
-    private static void dueGraphs(String name, OrderModels m, int... counts) {
-        for (int model = 0; model < 4; model++) {
-            due(10, name + ": graphs(" + model + ")", m.graphs(model), counts[model]);
-        }
     }
 
     private static void ordersAndGraphs() {
